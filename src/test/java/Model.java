@@ -772,10 +772,10 @@ final class Model {
         return out;
     }
 
-    private boolean lies(boolean[][] taken, List<Cell> cells, int column, int row, int turn) {
+    private boolean lies(boolean[][] taken, List<Cell> turned, int column, int row, int turn) {
         if (turn > 1 || turn == 1 && cloth[2] == 1) return false;
         if (cloth[3] > 0 && column % cloth[3] != 0) return false;
-        for (Cell c : turned(cells, turn)) {
+        for (Cell c : turned) {
             if (c.i + column > 95 || c.j + row >= cloth[0] || taken[c.i + column][c.j + row]) return false;
         }
         return true;
@@ -788,9 +788,10 @@ final class Model {
     }
 
     private int[] firstPlace(boolean[][] taken, List<Cell> cells) {
+        List<List<Cell>> both = List.of(cells, turned(cells, 1));
         for (int c = 0; c < 96; c++) {
             for (int r = 0; r < cloth[0]; r++) {
-                for (int t = 0; t < 2; t++) if (lies(taken, cells, c, r, t)) return new int[] {c, r, t};
+                for (int t = 0; t < 2; t++) if (lies(taken, both.get(t), c, r, t)) return new int[] {c, r, t};
             }
         }
         return null;
@@ -844,7 +845,7 @@ final class Model {
             int c = bytes.get(3 * i);
             int r = bytes.get(3 * i + 1);
             int t = bytes.get(3 * i + 2);
-            if (!lies(taken, shapes.get(i), c, r, t)) return -100 - i;
+            if (!lies(taken, turned(shapes.get(i), t), c, r, t)) return -100 - i;
             for (Cell cell : turned(shapes.get(i), t)) taken[cell.i + c][cell.j + r] = true;
         }
         return longOf(taken);

@@ -18,6 +18,7 @@ public final class ModelTest {
     private final Model model = new Model();
     private final StringBuilder told = new StringBuilder();
     private final int wildness;
+    private int setUp;
     private boolean good = true;
 
     private ModelTest(int seed) {
@@ -66,8 +67,8 @@ public final class ModelTest {
     }
 
     private void setUp() throws Exception {
-        int n = 1 + random.nextInt(5);
-        for (int k = 0; k < n; k++) {
+        setUp = 1 + random.nextInt(5);
+        for (int k = 0; k < setUp; k++) {
             int points = 3 + random.nextInt(4);
             int kind = k == 0 ? 0 : random.nextInt(4);
             long made = both("piece", kind, points, kind == 3 ? random.nextInt(model.pieces.size()) : -1);
@@ -100,8 +101,10 @@ public final class ModelTest {
         return least + random.nextInt(Math.max(1, most - least + 1));
     }
 
+    /** Mostly one of the first ones, which have rules for all their points. */
     private int piece() {
-        return pick(0, model.pieces.size() - 1);
+        int many = random.nextInt(4) > 0 ? Math.min(setUp, model.pieces.size()) : model.pieces.size();
+        return pick(0, many - 1);
     }
 
     private int point(int piece) {
@@ -174,7 +177,7 @@ public final class ModelTest {
             }
             case 7: if (random.nextInt(8) == 0) both("withdraw", piece); break;
             case 8: case 9: case 10: {
-                if (model.text.isEmpty() || random.nextBoolean()) feed(random.nextInt(3) == 0 ? text(point) : simpleText(Math.max(0, point)));
+                if (model.text.isEmpty() || random.nextBoolean()) feed(random.nextInt(6) == 0 ? text(point) : simpleText(Math.max(0, point)));
                 both("rule", piece, point, random.nextInt(4) > 0 ? model.day : pick(model.day, Math.min(1000, model.day + 4)));
                 break;
             }
@@ -217,7 +220,9 @@ public final class ModelTest {
             case 41: case 42: both("least", pick(0, 5), pick(0, 1)); break;
             case 43: {
                 int what = pick(0, 5);
-                both("cloth", what, pick(what < 2 ? 1 : 0, new int[] {24, 40, 1, 12, 50, 50, 9}[Math.max(0, Math.min(6, what))]));
+                int least = what == 0 ? 8 : what == 1 ? 5 : 0;
+                if (random.nextInt(6) == 0 && what < 2) least = 1;
+                both("cloth", what, pick(least, new int[] {24, 30, 1, 12, 50, 50, 9}[Math.max(0, Math.min(6, what))]));
                 break;
             }
             case 44: case 45: both("cells", piece, size(), day()); break;
