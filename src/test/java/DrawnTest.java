@@ -9,6 +9,7 @@ public final class DrawnTest {
         borrowedFar();
         length();
         curves();
+        tenCurves();
         lengthOn();
         area();
         Due.finish("DrawnTest");
@@ -198,6 +199,17 @@ public final class DrawnTest {
         z.curve(0, 0, 999, 0);
         // the middle of 0 and 1 is 0: X 0 218 374 468 499 468 375 219 1
         Due.due("20: there and back", z.length(0, 0, 1, 5, 0), 218 + 156 + 94 + 31 + 31 + 93 + 156 + 218);
+    }
+
+    /** Ten points, and all ten lines in eight steps. */
+    private static void tenCurves() {
+        PatternHouse x = new PatternHouse();
+        Due.piece(x, 0, "0,0", "80,0", "160,0", "160,80", "160,160", "80,160", "0,160", "0,120", "0,80", "0,40");
+        for (int p = 0; p < 10; p++) x.curve(0, p, 0, 0);
+        Due.due("20: all round in eighty ways", x.length(0, 9, 9, 5, 0), 640);
+        Due.due("20: through the end", x.length(0, 8, 1, 5, 0), 160);
+        Due.due("22: in eighty ways", x.area(0, 5, 0), 51200);
+        Due.due("34: in eighty ways", x.cells(0, 5, 0), 256);
     }
 
     private static void lengthOn() {

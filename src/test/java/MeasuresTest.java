@@ -80,6 +80,9 @@ public final class MeasuresTest {
         Due.due("5: no such size first", x.body(11), -1);
         Due.due("5: size -1", x.body(-1), -1);
         Due.due("5: twelve", x.count(1), 12);
+        Due.due("5: the last one stands", x.measured(11, 0), 0);
+        Due.due("5: none behind it", x.measured(12, 0), -1);
+        Due.due("5: nor far behind", x.measured(Integer.MAX_VALUE, 0), -1);
     }
 
     private static void measure() {

@@ -98,6 +98,14 @@ public final class MovesTest {
         x.condition(0, 0, 0, 0, 0, 0, 1);
         Due.due("32: of nothing, twice", x.least(0, 0), 1000000003);
         x.free();
+        x.condition(0, 0, 0, 0, 0, 0, 1);
+        x.condition(0, 0, 0, 0, 0, 0, 0);
+        Due.due("32: the first of nothing, the second nothing at all", x.least(0, 0), 1000000003);
+        x.free();
+        x.condition(0, 0, 0, 0, 0, 0, 0);
+        x.condition(0, 0, 0, 0, 0, 0, -1);
+        Due.due("32: the second of nothing, the first nothing at all", x.least(0, 0), 1000000003);
+        x.free();
         x.condition(1, 0, 0, 0, 0, 0, 1);
         x.condition(0, 0, 0, 0, 0, 0, -1);
         Due.due("32: the second of nothing", x.least(0, 0), 1000000003);

@@ -34,8 +34,10 @@ public final class PiecesTest {
         Due.due("8: nothing was made", x.count(2), 5);
         for (int k = 5; k < 16; k++) Due.due("8: piece " + k, x.piece(0, 3, -1), k);
         Due.due("8: a seventeenth", x.piece(0, 3, -1), -6);
+        Due.due("8: the last one stands", x.fault(15), 0);
+        Due.due("8: none behind it", x.fault(16), -1);
         Due.due("8: points first", x.piece(0, 2, -1), -4);
-        Due.refused(x, "of piece", 4, 2, 2, 2, 0, 2, 0);
+        Due.refused(x, "of piece", 5, 2, 2, 2, 0, 2, 0);
     }
 
     private static void withdraw() {
@@ -167,6 +169,8 @@ public final class PiecesTest {
         Due.rule(x, 0, 1, 3, "e,x0");
         Due.due("13: as of a day", x.from(0, 3, 2), 14);
         Due.due("13: as of a later day", x.from(0, 3, 3), 16 + 1 + 12);
+        Due.rule(x, 0, 4, 4, "x0+x1,x2");
+        Due.due("13: of all that it names", x.from(0, 4, 4), 1 + 16 + 129 - 1);
         x.piece(3, 4, 0);
         Due.due("13: the block's", x.from(1, 2, 0), 129);
         Due.rule(x, 1, 0, 0, "g,g");

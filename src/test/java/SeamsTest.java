@@ -38,8 +38,10 @@ public final class SeamsTest {
         Due.due("23: of the same piece, of a whole round", x.seam(0, 0, 0, 0, 1, 1, -999, 999), 0);
         for (int k = 1; k < 20; k++) Due.due("23: seam " + k, x.seam(0, 0, 1, 1, 0, 1, 0, 0), k);
         Due.due("23: a twenty-first", x.seam(0, 0, 1, 1, 0, 1, 0, 0), -6);
+        Due.due("23: the last one stands", x.meets(19, 5, 0), 0);
+        Due.due("23: none behind it", x.meets(20, 5, 0), -1);
         Due.due("23: ease first", x.seam(0, 0, 1, 1, 0, 1, 1, 0), -4);
-        Due.refused(x, "of seam", 6, 0, 0, 6, 0, 3, 0);
+        Due.refused(x, "of seam", 7, 0, 0, 6, 0, 3, 0);
     }
 
     private static void notch() {

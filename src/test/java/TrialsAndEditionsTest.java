@@ -61,6 +61,8 @@ public final class TrialsAndEditionsTest {
         for (int[] o : others) {
             Due.due("43: no trials of another", x.said(o[0], o[1], o[2], o[3], 0), 1000000005);
         }
+        x.trial(0, 0, 0, 1, 101, 0);
+        Due.due("43: they let just one", x.said(0, 0, 0, 1, 0), 101);
         x.trial(0, 0, 0, 1, 102, 0);
         Due.due("43: they let none", x.said(0, 0, 0, 1, 0), 1000000003);
         Due.due("43: they let none, greatest", x.said(0, 0, 0, 1, 1), 1000000003);
@@ -83,6 +85,8 @@ public final class TrialsAndEditionsTest {
         for (int k = 0; k < 12; k++) Due.due("44: edition " + k, x.edition(), k);
         Due.due("44: a thirteenth", x.edition(), -6);
         Due.due("44: twelve", x.count(8), 12);
+        Due.due("44: the last one stands", x.firstWrong(11), -9);
+        Due.due("44: none behind it", x.firstWrong(12), -1);
     }
 
     private static void holds() {
