@@ -4,14 +4,20 @@ public final class ClothTest {
         cloth();
         cells();
         cellsExactly();
+        ends();
+        folded();
+        movedHome();
         lays();
         clear();
         shortest();
         orders();
+        firstIsNotLaidFirst();
+        narrowAndWide();
         noRoom();
         place();
         put();
         judge();
+        judgeEdges();
         cut();
         Due.finish("ClothTest");
     }
@@ -89,6 +95,83 @@ public final class ClothTest {
         Due.due("34: a curve's ways", x.cells(0, 5, 0), 8 + 6);
         x.curve(0, 0, 0, 40);
         Due.due("34: a curve to the inside", x.cells(0, 5, 0), 2);
+    }
+
+    /** The least and the greatest step, and pieces as wide and as long as they may be, wherever they lie. */
+    private static void ends() {
+        PatternHouse x = new PatternHouse();
+        x.cloth(1, 1);
+        Due.box(x, 0, 24, 24);
+        Due.box(x, 0, 25, 24);
+        Due.box(x, 0, 24, 25);
+        int[] small = {576, 0, 0};
+        for (int k = 0; k < 3; k++) Due.due("34: step 1, " + k, x.cells(k, 5, 0), small[k]);
+        PatternHouse y = new PatternHouse();
+        y.cloth(1, 500);
+        Due.piece(y, 0, "0,0", "120*100,0", "120*100,120*100", "0,120*100");
+        Due.piece(y, 0, "0,0", "120*100+1,0", "120*100+1,500", "0,500");
+        Due.piece(y, 0, "0,0", "500,0", "500,120*100+1", "0,120*100+1");
+        int[] large = {576, 0, 0};
+        for (int k = 0; k < 3; k++) Due.due("34: step 500, " + k, y.cells(k, 5, 0), large[k]);
+        Due.due("34: far along Y", cellsOf(0, "0,300", "30,300", "30,540", "0,540"), 72);
+        Due.due("34: far along Y, too long", cellsOf(0, "0,300", "30,300", "30,541", "0,541"), 0);
+        Due.due("34: far along X", cellsOf(0, "300,0", "540,0", "540,30", "300,30"), 72);
+        Due.due("34: far along X, too wide", cellsOf(0, "300,0", "541,0", "541,30", "300,30"), 0);
+        Due.due("34: point 0 alone has the least X", cellsOf(0, "100,110", "140,100", "140,120"), 4);
+        Due.due("34: point 0 alone has the least Y", cellsOf(0, "110,100", "120,140", "100,140"), 4);
+        Due.due("34: point 0 alone has the greatest X", cellsOf(0, "340,110", "100,100", "100,120"), 24);
+        Due.due("34: point 0 alone makes it too wide", cellsOf(0, "341,110", "100,100", "100,120"), 0);
+        Due.due("34: point 0 alone makes it too long", cellsOf(0, "110,341", "100,100", "120,100"), 0);
+    }
+
+    private static int longOf(int width, int kind, String... texts) {
+        PatternHouse x = new PatternHouse();
+        x.cloth(0, width);
+        x.lays(Due.piece(x, kind, texts), 5);
+        return x.shortest(0);
+    }
+
+    /** Turned over at the X of point 0, wherever that is: whole, and too wide only as a whole. */
+    private static void folded() {
+        Due.due("34: folded to the left", cellsOf(1, "100,0", "130,0", "130,10", "100,10"), 6);
+        Due.due("37: in one, to the left", longOf(1, 1, "100,0", "130,0", "130,10", "100,10"), 6);
+        Due.due("37: in one, to the right", longOf(1, 1, "130,0", "100,0", "100,10", "130,10"), 6);
+        // at the middle's Y from 75 to 90 and from 110 to 125: middles at 75, 85 and 115 are inside
+        Due.due("37: apart from its fold", longOf(1, 1, "100,0", "120,0", "130,10", "120,10"), 5);
+        Due.due("34: as wide as it may be, to the left", cellsOf(1, "500,0", "620,0", "620,10", "500,10"), 24);
+        Due.due("34: too wide, to the left", cellsOf(1, "500,0", "621,0", "621,10", "500,10"), 0);
+        Due.due("34: as wide as it may be, to the right", cellsOf(1, "620,0", "500,0", "500,10", "620,10"), 24);
+        Due.due("34: too wide, to the right", cellsOf(1, "621,0", "500,0", "500,10", "621,10"), 0);
+        Due.due("34: as long as it may be", cellsOf(1, "500,0", "510,0", "510,240", "500,240"), 48);
+        Due.due("34: too long", cellsOf(1, "500,0", "510,0", "510,241", "500,241"), 0);
+        PatternHouse x = new PatternHouse();
+        Due.piece(x, 1, "100,0", "120,0", "120,10", "100,10");
+        x.grade(0, 0, 10, 0);
+        x.grade(0, 3, 10, 0);
+        Due.due("34: at the X of the graded point 0", x.cells(0, 6, 0), 2);
+        Due.due("34: at the X of the other graded point 0", x.cells(0, 4, 0), 6);
+    }
+
+    /** Neither the first row nor the first column has a cell: those that have are the first ones then. */
+    private static void movedHome() {
+        String[] up = {"30,0", "60,60", "0,60"};
+        String[] right = {"0,30", "60,0", "60,60"};
+        Due.due("34: the first row has none", cellsOf(0, up), 2 + 2 + 4 + 4 + 6);
+        Due.due("37: five rows are enough", longOf(5, 0, up), 6);
+        Due.due("37: four are not", longOf(4, 0, up), -3);
+        Due.due("34: the first column has none", cellsOf(0, right), 2 + 2 + 4 + 4 + 6);
+        Due.due("37: it is five long", longOf(6, 0, right), 5);
+        Due.due("37: not across five rows", longOf(5, 0, right), -3);
+        PatternHouse x = new PatternHouse();
+        Due.piece(x, 0, up);
+        x.lays(0, 5);
+        x.cloth(0, 5);
+        Due.due("38: at row 0", x.place(0, 1), 0);
+        Due.due("40: at row 0", judged(x, 0, 0, 0), 6);
+        Due.due("40: not at row 1", judged(x, 0, 1, 0), -100);
+        Due.due("40: turned at row 0", judged(x, 0, 0, 1), 6);
+        Due.due("40: as far as column 90", judged(x, 90, 0, 0), 96);
+        Due.due("40: not as far as column 91", judged(x, 91, 0, 0), -100);
     }
 
     private static void lays() {
@@ -197,6 +280,46 @@ public final class ClothTest {
         Due.due("38: no turn one way", y.place(1, 2), 0);
     }
 
+    /** The best order begins with the second: 1 3 2 0 would do, too, but 1 2 0 3 comes first. */
+    private static void firstIsNotLaidFirst() {
+        PatternHouse x = new PatternHouse();
+        x.cloth(0, 4);
+        int[][] boxes = {{30, 10}, {30, 20}, {20, 30}, {20, 20}};
+        for (int i = 0; i < 4; i++) x.lays(Due.box(x, 0, boxes[i][0], boxes[i][1]), 5);
+        Due.due("37: four that fill the cloth", x.shortest(0), 5);
+        Due.due("37: as its bound", x.shortest(1), 5);
+        int[][] dues = {{2, 3, 0}, {0, 0, 0}, {3, 0, 0}, {0, 2, 0}};
+        for (int i = 0; i < 4; i++) {
+            for (int what = 0; what < 3; what++) Due.due("38: of " + i + " " + what, x.place(i, what), dues[i][what]);
+        }
+    }
+
+    private static void narrowAndWide() {
+        PatternHouse x = new PatternHouse();
+        Due.box(x, 0, 240, 240);
+        Due.box(x, 0, 50, 10);
+        x.lays(0, 5);
+        x.cloth(0, 24);
+        Due.due("37: all rows", x.shortest(0), 24);
+        Due.due("37: bound of all rows", x.shortest(1), 24);
+        x.cloth(0, 23);
+        Due.due("37: one row less", x.shortest(0), -3);
+        x.clear();
+        x.lays(1, 5);
+        x.lays(1, 5);
+        x.cloth(0, 1);
+        Due.due("37: one row", x.shortest(0), 10);
+        Due.due("37: bound of one row", x.shortest(1), 10);
+        x.cloth(3, 1);
+        Due.due("37: a stripe of 1 bars nothing", x.shortest(0), 10);
+        x.cloth(3, 12);
+        Due.due("37: a stripe of 12", x.shortest(0), 17);
+        Due.due("37: no stripe in its bound", x.shortest(1), 10);
+        x.cloth(0, 24);
+        Due.due("38: across first", x.place(1, 0), 0);
+        Due.due("38: its row", x.place(1, 1), 1);
+    }
+
     private static void noRoom() {
         PatternHouse x = new PatternHouse();
         Due.box(x, 0, 240, 130);
@@ -292,6 +415,27 @@ public final class ClothTest {
         Due.refused(x, "of judge", 0, 0, 0, 0, 5, 0, 1);
     }
 
+    /** Over just one column or one row of another one; four on the marker. */
+    private static void judgeEdges() {
+        PatternHouse x = new PatternHouse();
+        Due.box(x, 0, 30, 20);
+        for (int k = 0; k < 4; k++) x.lays(0, 5);
+        Due.due("40: four", judged(x, 0, 0, 0, 3, 0, 1, 0, 2, 0, 93, 10, 1), 96);
+        Due.due("40: over its last column", judged(x, 0, 0, 0, 2, 0, 0, 0, 2, 0, 9, 0, 0), -101);
+        Due.due("40: over its first column", judged(x, 2, 0, 0, 0, 0, 0, 0, 2, 0, 9, 0, 0), -101);
+        Due.due("40: over its last row", judged(x, 0, 0, 0, 3, 0, 0, 0, 1, 0, 9, 0, 0), -102);
+        Due.due("40: over its first row", judged(x, 0, 1, 0, 3, 0, 0, 0, 0, 0, 9, 0, 0), -102);
+        Due.due("40: the last of four", judged(x, 0, 0, 0, 3, 0, 0, 6, 0, 0, 8, 1, 0), -103);
+        Due.due("40: the first of several", judged(x, 0, 0, 0, 0, 0, 2, 0, 0, 0, 95, 0, 0), -101);
+        Due.due("40: the last row", judged(x, 0, 10, 0, 3, 10, 0, 6, 10, 0, 9, 10, 0), 12);
+        Due.due("40: beyond the last row", judged(x, 0, 11, 0, 3, 10, 0, 6, 10, 0, 9, 10, 0), -100);
+        Due.due("40: no cell in the first columns", judged(x, 9, 0, 0, 6, 0, 0, 3, 0, 0, 20, 0, 0), 23);
+        x.cloth(3, 12);
+        Due.due("40: stripes of 12", judged(x, 0, 0, 0, 12, 0, 0, 24, 0, 0, 84, 0, 0), 87);
+        Due.due("40: one column behind a stripe", judged(x, 0, 0, 0, 12, 0, 0, 24, 0, 0, 85, 0, 0), -103);
+        Due.due("40: one column ahead of a stripe", judged(x, 0, 0, 0, 11, 0, 0, 24, 0, 0, 84, 0, 0), -101);
+    }
+
     private static void cut() {
         PatternHouse x = new PatternHouse();
         Due.due("41: no shrinking", x.cut(-99999, 0, false), -99999);
@@ -308,6 +452,10 @@ public final class ClothTest {
         Due.due("41: washed, cut toward 0", x.cut(2, 0, true), 2);
         Due.due("41: below 0 cut down", x.cut(-2, 0, false), -4);
         Due.due("41: below 0 washed, cut toward 0", x.cut(-2, 0, true), -2);
+        x.cloth(4, 1);
+        Due.due("41: cut up by the least there is over", x.cut(100, 0, false), 102);
+        Due.due("41: nothing is over", x.cut(99, 0, false), 100);
+        Due.due("41: cut down by the least there is over", x.cut(-100, 0, false), -102);
         x.cloth(4, 25);
         Due.due("41: washed may be more", x.cut(2, 0, true), 2);
         Due.due("41: axis", x.cut(100000, 2, false), 1000000002);

@@ -132,6 +132,12 @@ public final class DrawnTest {
         for (int p = 0; p < 4; p++) Due.rule(x, 1, p, 5, "1,1");
         Due.due("18: nothing is borrowed any more", x.at(1, 0, 5, 5, 0), 1);
         Due.due("18: of a broken block", x.at(0, 1, 5, 5, 0), 1000000007);
+        PatternHouse y = new PatternHouse();
+        Due.box(y, 0, 100, 100);
+        y.piece(3, 3, 0);
+        Due.due("20: of fewer points than its block, the last line is to point 0", y.length(1, 2, 0, 5, 0), 141);
+        Due.due("22: of fewer points than its block", y.area(1, 5, 0), 10000);
+        Due.due("18: no more points than its own", y.at(1, 3, 5, 0, 0), 1000000001);
     }
 
     /** Through sixteen pieces; and beyond a million by grading, which breaks only where it is named. */
@@ -194,6 +200,11 @@ public final class DrawnTest {
         y.curve(0, 0, 1, 1);
         // middle (-2, -2), knee (-1, -1): X -3 -3 -3 -2 -2 -1 -1 -1 0, Y 0 -1 -1 -2 -2 -3 -3 -4 -4, all cut down
         Due.due("20: cut down below 0, too", y.length(0, 0, 1, 5, 0), 5);
+        PatternHouse w = new PatternHouse();
+        Due.piece(w, 0, "10,20", "110,20", "110,120", "10,120");
+        w.curve(0, 3, -40, 0);
+        // X 10 1 -5 -9 -10 -9 -5 1 10, Y 120 107 95 82 70 57 45 32 20
+        Due.due("20: the last line's curve ends at point 0", w.length(0, 3, 0, 5, 0), 15 + 13 + 13 + 12 + 13 + 12 + 14 + 15);
         PatternHouse z = new PatternHouse();
         Due.piece(z, 0, "0,0", "1,0", "1,999");
         z.curve(0, 0, 999, 0);

@@ -32,6 +32,9 @@ public final class MeasuresTest {
         Due.due("2: up to the last day", x.days(999), 1000);
         Due.due("2: no day behind it", x.days(1), -6);
         Due.refused(x, "of days", 0, 0, 0, 3, 0, 3, 0);
+        PatternHouse y = new PatternHouse();
+        Due.due("2: 1001 days", y.days(1001), -6);
+        Due.due("2: all days at once", y.days(1000), 1000);
     }
 
     private static void table() {

@@ -41,6 +41,10 @@ public final class MovesTest {
         Due.due("31: two", x.free(), 2);
         Due.due("31: none then", x.count(5), 0);
         Due.due("31: no moves then", x.least(0, 0), 0);
+        x.condition(2, 0, 0, 0, 0, 0, 1);
+        Due.due("31: a half", x.least(0, 1), 2);
+        Due.due("31: one", x.free(), 1);
+        Due.due("31: 0 by 1 then", x.least(0, 1), 1);
         Due.due("31: told anew", x.condition(0, 0, 0, 0, 0, 2, 1), 1);
         Due.due("31: the new one alone counts", x.least(5, 1), 2);
     }
@@ -73,6 +77,11 @@ public final class MovesTest {
         x.condition(0, 0, 0, 0, 0, 3, -7);
         moves("nothing and one", x, 0, 1, 0, 1, 0, 1, 0, 1, 0, 1, -7, 3);
         x.free();
+        x.condition(0, 0, 0, 0, 0, 3, -7);
+        x.condition(0, 0, 0, 0, 0, 0, 0);
+        moves("one and nothing", x, 0, 1, 0, 1, 0, 1, 0, 1, 0, 1, -7, 3);
+        each();
+        x.free();
         x.condition(99, -99, 98, -97, 96, 95, 9999);
         x.condition(-99, 99, -98, 97, -96, 94, -9998);
         // their sum: 189 m5 = 1; the rest is as the first one's coefficients
@@ -83,6 +92,25 @@ public final class MovesTest {
         Due.due("32: no such part", x.least(0, 2), 1000000002);
         Due.due("32: part -1", x.least(0, -1), 1000000002);
         Due.refused(x, "of least", 2, 2);
+    }
+
+    /** Each coefficient alone moves its own, as the first condition and as the second. */
+    private static void each() {
+        for (int i = 0; i < 6; i++) {
+            PatternHouse x = new PatternHouse();
+            for (int k = 0; k < 2; k++) {
+                int[] c = new int[7];
+                c[(i + k) % 6] = 2 - 5 * k;
+                c[6] = 9 - 8 * k;
+                tell(x, c);
+            }
+            long[] dues = {0, 1, 0, 1, 0, 1, 0, 1, 0, 1, 0, 1};
+            dues[2 * i] = 9;
+            dues[2 * i + 1] = 2;
+            dues[2 * ((i + 1) % 6)] = -1;
+            dues[2 * ((i + 1) % 6) + 1] = 3;
+            moves("of " + i + " and the next alone", x, dues);
+        }
     }
 
     private static void barred() {
@@ -121,5 +149,16 @@ public final class MovesTest {
         x.condition(0, 3, 0, 0, 0, -3, 0);
         x.condition(0, 1, 0, 0, 0, -1, 1);
         Due.due("32: 0 and 1 don't", x.least(1, 0), 1000000003);
+        for (int i = 0; i < 6; i++) {
+            x.free();
+            int[] c = new int[7];
+            c[i] = 2;
+            c[6] = 10;
+            tell(x, c);
+            c[i] = 1;
+            c[6] = 4;
+            tell(x, c);
+            Due.due("32: barred by coefficient " + i + " alone", x.least(0, 0), 1000000003);
+        }
     }
 }

@@ -124,7 +124,10 @@ public final class PiecesTest {
             {"1*-1,0", 2}, {"1/,0", 2}, {"*1,0", 0}, {"1 ,0", 1}, {"1,0 ", 3}, {"(1", 2}, {"r(1", 3}, {"1,r(4", 5},
             {"1,(2+3", 6}, {"((((((1)))))),0", 5}, {"(((((r(1)))))),0", 6}, {"r(r(r(r(r(r(1)))))),0", 11},
             {"1,((((((1))))))", 7}, {"1,2(", 3}, {"(1)(1),0", 3}, {"1,0\u0000", 3}, {"\u00e1,0", 0}, {"R(1),0", 0},
-            {"1.5,0", 1}, {"x0y0,0", 2}, {"(((((1))))),((((((1", 17}};
+            {"1.5,0", 1}, {"x0y0,0", 2}, {"(((((1))))),((((((1", 17},
+            {"(,1", 1}, {"r(,1", 2}, {"(1+,2", 3}, {"1,(2,3)", 4}, {"(1),(,1", 5}, {"0,", 2}, {"99999,0", 4}, {"/,0", 0},
+            {"1,/", 2}, {":,0", 0}, {"`,0", 0}, {"x/,0", 1}, {"x:,0", 1}, {"1,1,1", 3}, {"1)", 1}, {"r(r(r(r(r(1))))),r", 18},
+            {"(((((a))))),(((((b)))))+(((((r(c))))))", 30}};
         for (Object[] due : dues) {
             Due.due("11: fault of " + due[0], Due.rule(x, 0, 4, 0, (String) due[0]), -20 - (Integer) due[1]);
         }
@@ -171,6 +174,10 @@ public final class PiecesTest {
         Due.due("13: as of a later day", x.from(0, 3, 3), 16 + 1 + 12);
         Due.rule(x, 0, 4, 4, "x0+x1,x2");
         Due.due("13: of all that it names", x.from(0, 4, 4), 1 + 16 + 129 - 1);
+        PatternHouse y = new PatternHouse();
+        Due.piece(y, 0, "a,b", "1,y0", "x0,1");
+        Due.due("13: Y of point 0 names both, too", y.from(0, 1, 0), 3);
+        Due.due("13: X of point 0 names both, too", y.from(0, 2, 0), 3);
         x.piece(3, 4, 0);
         Due.due("13: the block's", x.from(1, 2, 0), 129);
         Due.rule(x, 1, 0, 0, "g,g");
@@ -238,6 +245,19 @@ public final class PiecesTest {
         Due.due("15: a forty-first", x.alter(0, 0, 2, 1, 1), -6);
         Due.due("15: refused, as it was", x.on(0, 0, 2, 0), 0);
         Due.due("15: told anew with 40", x.alter(4, 3, 1, 0, 5), 1);
+        allOfOneBody();
+    }
+
+    private static void allOfOneBody() {
+        PatternHouse x = new PatternHouse();
+        for (int k = 0; k < 5; k++) x.piece(0, 10, -1);
+        x.body(5);
+        for (int k = 0; k < 40; k++) Due.due("15: of one body, " + k, x.alter(k / 10, k % 10, 0, k, -k), 1);
+        Due.due("15: a forty-first of one body", x.alter(4, 0, 0, 1, 1), -6);
+        for (int p = 0; p < 10; p++) Due.rule(x, 3, p, 0, "0,0");
+        for (int p = 0; p < 10; p++) Due.rule(x, 4, p, 0, "0,0");
+        Due.due("15: the fortieth counts", x.on(3, 9, 0, 0), 39);
+        Due.due("15: the forty-first does not", x.on(4, 0, 0, 0), 0);
     }
 
     private static void curveAndStraight() {

@@ -135,6 +135,10 @@ public final class SeamsTest {
         Due.due("28: the same as the one ahead", lostOf(0, 30, 30, 30, 30), 1);
         Due.due("28: p not above the one ahead", lostOf(9, 30, 30, 30, 31), 1);
         Due.due("28: both ahead of the one ahead", lostOf(99, 30, 30, 20, 25), 1);
+        Due.due("28: just above the one ahead", lostOf(0, 30, 30, 31, 31), -9);
+        Due.due("28: q not above the one ahead", lostOf(9, 30, 31, 31, 31), 1);
+        Due.due("28: all the gather there can be", lostOf(100, 10, 110), -9);
+        Due.due("28: one less than that", lostOf(99, 10, 110), 0);
         Due.due("28: the first that is lost", lostOf(0, 10, 10, 20, 21, 30, 29, 40, 40), 1);
         Due.due("28: from the one ahead, even if it is lost", lostOf(0, 10, 9, 20, 19), 0);
         PatternHouse x = boxes();

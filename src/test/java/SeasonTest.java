@@ -54,6 +54,7 @@ public final class SeasonTest {
         Due.due("51: nothing is ordered any more", x.season(), 0);
         x.order(0, 99);
         Due.due("51: the most", x.season(), 5 * 9999 + 9 * (7 + 15 + 30));
+        oneLess();
         PatternHouse all = new PatternHouse();
         for (int s = 0; s < 5; s++) all.order(s, 81);
         all.marker(99999, 9999);
@@ -61,6 +62,24 @@ public final class SeasonTest {
         all.order(2, 82);
         Due.due("51: one too many", all.season(), -9);
         Due.refused(all, "of season");
+    }
+
+    /** What comes later takes just one less. */
+    private static void oneLess() {
+        PatternHouse x = new PatternHouse();
+        x.order(0, 1);
+        x.marker(1, 9);
+        x.marker(1, 10);
+        Due.due("51: one less", x.season(), 9);
+        Due.due("52: one less, the first", x.often(0), 1);
+        Due.due("52: one less, the second", x.often(1), 0);
+        PatternHouse y = new PatternHouse();
+        y.order(0, 3);
+        y.marker(2, 7);
+        y.marker(1, 4);
+        Due.due("51: one less by both", y.season(), 11);
+        Due.due("52: one less by both, the first", y.often(0), 1);
+        Due.due("52: one less by both, the second", y.often(1), 1);
     }
 
     private static void often() {

@@ -3,6 +3,7 @@ public final class TrialsAndEditionsTest {
     public static void main(String[] args) {
         trial();
         said();
+        saidFar();
         edition();
         holds();
         word();
@@ -78,6 +79,25 @@ public final class TrialsAndEditionsTest {
         Due.due("43: of a broken one", x.said(2, 0, 0, 0, 0), 5);
         Due.due("43: whether it is within", x.said(2, 0, 0, 0, 2), 1000000007);
         Due.refused(x, "of said", 4, 2, 3, 0, 5, 0, 1);
+    }
+
+    /** Far ends of what is said, trials that are alike but for one thing, and all trials of one body. */
+    private static void saidFar() {
+        PatternHouse x = new PatternHouse();
+        for (int k = 0; k < 3; k++) x.piece(0, 10, -1);
+        x.body(5);
+        x.trial(0, 0, 1, 2, 99999, 999);
+        Due.due("43: the greatest there can be", x.said(0, 0, 1, 2, 1), 100998);
+        Due.due("43: its least", x.said(0, 0, 1, 2, 0), 99000);
+        x.trial(0, 0, 9, 2, 0, 999);
+        Due.due("43: the least there can be", x.said(0, 0, 9, 2, 0), -999);
+        Due.due("43: its greatest", x.said(0, 0, 9, 2, 1), 999);
+        int[][] others = {{1, 0, 2}, {1, 9, 2}, {0, 2, 1}, {0, 0, 2}, {0, 1, 1}, {1, 1, 2}, {2, 9, 2}, {0, 1, 9}};
+        for (int[] o : others) Due.due("43: no trials of another", x.said(o[0], 0, o[1], o[2], 0), 1000000005);
+        for (int k = 2; k < 30; k++) x.trial(1, 0, 9, 9, 500 + k, 40);
+        Due.due("43: the least of all that there can be", x.said(1, 0, 9, 9, 0), 489);
+        Due.due("43: the greatest of all that there can be", x.said(1, 0, 9, 9, 1), 542);
+        Due.due("43: still of none", x.said(2, 0, 9, 9, 1), 1000000005);
     }
 
     private static void edition() {
