@@ -172,6 +172,24 @@ public final class ClothTest {
         Due.due("40: turned at row 0", judged(x, 0, 0, 1), 6);
         Due.due("40: as far as column 90", judged(x, 90, 0, 0), 96);
         Due.due("40: not as far as column 91", judged(x, 91, 0, 0), -100);
+        int[][] upCells = {{2, 0}, {3, 1}, {1, 2}, {4, 3}, {0, 4}, {5, 4}};
+        int[][] upFree = {{1, 0}, {4, 1}, {0, 2}, {5, 3}, {2, 5}, {6, 4}};
+        besideIt(up, upCells, upFree);
+        int[][] rightCells = {{0, 2}, {0, 3}, {1, 2}, {2, 1}, {3, 4}, {4, 0}, {4, 5}};
+        int[][] rightFree = {{0, 1}, {0, 4}, {1, 1}, {2, 0}, {3, 5}, {5, 0}, {4, 6}};
+        besideIt(right, rightCells, rightFree);
+    }
+
+    /** A single cell is laid where the piece has one, and where it has none. */
+    private static void besideIt(String[] texts, int[][] its, int[][] free) {
+        PatternHouse x = new PatternHouse();
+        x.lays(Due.piece(x, 0, texts), 5);
+        int alone = x.shortest(0);
+        x.lays(Due.box(x, 0, 10, 10), 5);
+        for (int[] c : its) Due.due("40: its cell " + c[0] + " " + c[1], judged(x, 0, 0, 0, c[0], c[1], 0), -101);
+        for (int[] c : free) {
+            Due.due("40: not its cell " + c[0] + " " + c[1], judged(x, 0, 0, 0, c[0], c[1], 0), Math.max(alone, c[0] + 1));
+        }
     }
 
     private static void lays() {

@@ -7,6 +7,8 @@ import java.util.Random;
 /** Runs of calls, the same ones each time, asked of the program and of the model: all answers are alike. */
 public final class ModelTest {
     private static final int RUNS = 1500;
+    /** Of the 512 calls that an object is used for, some are left for the last call with all that it asks, and for counts. */
+    private static final int MOST_CALLS = 512 - 21 - 60;
     private static final Map<String, Method> METHODS = new HashMap<>();
     private static final int[] WILD = {-1, -2, 11, 12, 100, -100, 1000, -1000, 1001, 10000, 100000, Integer.MAX_VALUE,
         Integer.MIN_VALUE};
@@ -19,6 +21,7 @@ public final class ModelTest {
     private final StringBuilder told = new StringBuilder();
     private final int wildness;
     private int setUp;
+    private int made;
     private boolean good = true;
 
     private ModelTest(int seed) {
@@ -26,12 +29,14 @@ public final class ModelTest {
         wildness = new int[] {0, 3, 8, 25}[seed % 4];
     }
 
+    /** More runs, or fewer, if how many is told. */
     public static void main(String[] args) throws Exception {
+        int runs = args.length > 0 ? Integer.parseInt(args[0]) : RUNS;
         for (Method method : PatternHouse.class.getDeclaredMethods()) {
             if ((method.getModifiers() & java.lang.reflect.Modifier.PUBLIC) != 0) METHODS.put(method.getName(), method);
         }
         int bad = 0;
-        for (int seed = 0; seed < RUNS && bad < 3; seed++) {
+        for (int seed = 0; seed < runs && bad < 3; seed++) {
             ModelTest run = new ModelTest(seed);
             run.go(seed);
             if (!run.good) {
@@ -43,6 +48,7 @@ public final class ModelTest {
     }
 
     private long both(String name, long... args) throws Exception {
+        made++;
         Method method = METHODS.get(name);
         Class<?>[] types = method.getParameterTypes();
         Object[] given = new Object[args.length];
@@ -62,8 +68,9 @@ public final class ModelTest {
     private void go(int seed) throws Exception {
         setUp();
         int calls = 80 + random.nextInt(250);
-        for (int k = 0; k < calls && good; k++) anyCall(random.nextInt(66));
+        for (int k = 0; k < calls && good && made < MOST_CALLS; k++) anyCall(random.nextInt(66));
         for (int what = -1; what < 20; what++) both("count", what);
+        Due.holds("a run of " + made + " calls at most 512 long", made <= 512);
     }
 
     private void setUp() throws Exception {

@@ -45,6 +45,10 @@ public final class MovesTest {
         Due.due("31: a half", x.least(0, 1), 2);
         Due.due("31: one", x.free(), 1);
         Due.due("31: 0 by 1 then", x.least(0, 1), 1);
+        x.condition(1, 0, 0, 0, 0, 0, 5);
+        Due.due("31: five", x.least(0, 0), 5);
+        x.free();
+        Due.due("31: 0 then", x.least(0, 0), 0);
         Due.due("31: told anew", x.condition(0, 0, 0, 0, 0, 2, 1), 1);
         Due.due("31: the new one alone counts", x.least(5, 1), 2);
     }

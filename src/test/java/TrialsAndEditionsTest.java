@@ -207,6 +207,18 @@ public final class TrialsAndEditionsTest {
         x.edition();
         Due.due("47: a broken one is not held", x.holds(0, 5), -7);
         Due.refused(x, "of firstWrong", 0, 0, 0, 0, 0, 0, 1);
+        PatternHouse y = new PatternHouse();
+        Due.piece(y, 0, "0,0", "0,0", "0,0");
+        y.edition();
+        y.holds(0, 5);
+        y.word(0, 0, 2, 0);
+        Due.due("47: an area of 0 agrees", y.firstWrong(0), -9);
+        Due.rule(y, 0, 2, 0, "r(0-1),0");
+        Due.due("47: the area of a broken one never", y.firstWrong(0), 0);
+        Due.rule(y, 0, 2, 1, "0,0");
+        y.days(1);
+        Due.due("47: even if it is whole on a later day", y.firstWrong(0), 0);
+        Due.refused(y, "of firstWrong, broken");
     }
 
     private static void fault() {
