@@ -153,6 +153,14 @@ public final class MovesTest {
         x.condition(0, 3, 0, 0, 0, -3, 0);
         x.condition(0, 1, 0, 0, 0, -1, 1);
         Due.due("32: 0 and 1 don't", x.least(1, 0), 1000000003);
+        x.free();
+        x.condition(0, 2, 0, 0, 0, 0, 10);
+        x.condition(0, 1, 0, 0, 0, 0, 5);
+        Due.due("32: sums that are multiples, too, agree", x.least(1, 0), 5);
+        x.free();
+        x.condition(0, -1, 0, 0, 0, 0, -5);
+        x.condition(0, 2, 0, 0, 0, 0, 10);
+        Due.due("32: the other way round, too", x.least(1, 0), 5);
         for (int i = 0; i < 6; i++) {
             x.free();
             int[] c = new int[7];
