@@ -42,6 +42,14 @@ final class Calls {
         return METHODS.keySet();
     }
 
+    static Class<?>[] takes(String name) {
+        return METHODS.get(name).getParameterTypes();
+    }
+
+    static Class<?> answers(String name) {
+        return METHODS.get(name).getReturnType();
+    }
+
     /** What a refused call answers: of some calls it is 1000000000 less the refusal. */
     static long asAnswered(String name, int why) {
         return APART.contains(name) ? 1000000000L - why : why;

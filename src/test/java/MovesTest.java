@@ -5,6 +5,7 @@ public final class MovesTest {
         free();
         least();
         barred();
+        likeRefusals();
         Due.finish("MovesTest");
     }
 
@@ -172,5 +173,25 @@ public final class MovesTest {
             tell(x, c);
             Due.due("32: barred by coefficient " + i + " alone", x.least(0, 0), 1000000003);
         }
+    }
+
+    /** Moves that are the numbers of refusals: they are answers all the same, and nothing is counted. */
+    private static void likeRefusals() {
+        PatternHouse x = new PatternHouse();
+        x.condition(5, 8, 75, 10, 38, -61, -21);
+        x.condition(-9, -76, 2, 35, -36, -50, -9407);
+        Due.due("32: as 1 refused, above", x.least(0, 0), 1000000001);
+        Due.due("32: as 1 refused, below", x.least(0, 1), 117135637);
+        x.free();
+        x.condition(-11, 83, -55, -72, -59, 33, 1);
+        x.condition(10, -30, -52, 31, -81, -24, 4545);
+        Due.due("32: as 3 refused, above", x.least(0, 0), 1000000003);
+        Due.due("32: as 3 refused, below", x.least(0, 1), 229489553);
+        x.free();
+        x.condition(16, 55, -39, 96, 51, 26, -139);
+        x.condition(-49, -13, -88, -25, -27, -94, -1305);
+        Due.due("32: as 7 refused, above", x.least(0, 0), 1000000007);
+        Due.due("32: as 7 refused, below", x.least(0, 1), 336229736);
+        Due.refused(x, "of moves like refusals");
     }
 }
