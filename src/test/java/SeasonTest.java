@@ -5,6 +5,7 @@ public final class SeasonTest {
         marker();
         season();
         often();
+        dearSeasons();
         count();
         Due.finish("SeasonTest");
     }
@@ -116,6 +117,53 @@ public final class SeasonTest {
         Due.due("52: equal cloth, less of the first", y.often(0), 0);
         Due.due("52: equal cloth, less of the second", y.often(1), 0);
         Due.due("52: equal cloth, the third", y.often(2), 1);
+    }
+
+    /** Seasons in which a search can leave out least, against all ways one by one. */
+    private static void dearSeasons() {
+        int[][] orders = {{90, 89, 36, 63, 56}, {75, 68, 81, 94, 96}, {77, 87, 99, 92, 4}, {92, 25, 96, 91, 58}, {84, 91, 75, 93, 98}};
+        int[][] counts = {{20320, 14311, 1716, 22153, 5727, 78791}, {12334, 42102, 9060, 10613, 90238, 19863},
+            {42326, 22410, 81040, 54384, 11643, 79377}, {3021, 6512, 34822, 753, 28238, 63999},
+            {43100, 21410, 23211, 3612, 62047, 88764}};
+        int[][] cloths = {{385, 387, 5524, 5524, 8173, 7588}, {812, 2088, 814, 2125, 3624, 3620},
+            {375, 4778, 1302, 6098, 7402, 8219}, {439, 439, 440, 440, 441, 9827}, {92, 3833, 662, 2362, 9187, 94}};
+        for (int k = 0; k < orders.length; k++) {
+            PatternHouse x = new PatternHouse();
+            for (int s = 0; s < 5; s++) x.order(s, orders[k][s]);
+            for (int m = 0; m < 6; m++) x.marker(counts[k][m], cloths[k][m]);
+            int[] best = bestOfAll(orders[k], counts[k], cloths[k]);
+            Due.due("51: dear season " + k, x.season(), best[0]);
+            for (int m = 0; m < 6; m++) {
+                Due.due("52: dear season " + k + ", marker " + m, x.often(m), best[0] == -9 ? -9 : timesOf(m, best[1]));
+            }
+        }
+    }
+
+    /** How often marker m is cut in a way, whose digits are how often, marker 0's the highest. */
+    private static int timesOf(int m, int way) {
+        int rest = way;
+        for (int k = m; k < 5; k++) rest /= 10;
+        return rest % 10;
+    }
+
+    /** The least cloth and the first way that takes it; ways are gone through by less first. */
+    private static int[] bestOfAll(int[] orders, int[] counts, int[] cloths) {
+        int[] best = {-9, 0};
+        for (int way = 0; way < 1000000; way++) {
+            int cloth = 0;
+            for (int m = 0; m < 6; m++) cloth += timesOf(m, way) * cloths[m];
+            if (best[0] != -9 && cloth >= best[0]) continue;
+            boolean met = true;
+            for (int s = 0, unit = 1; met && s < 5; s++, unit *= 10) {
+                int made = 0;
+                for (int m = 0; m < 6; m++) made += timesOf(m, way) * (counts[m] / unit % 10);
+                met = made >= orders[s];
+            }
+            if (!met) continue;
+            best[0] = cloth;
+            best[1] = way;
+        }
+        return best;
     }
 
     private static void count() {
